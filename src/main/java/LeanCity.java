@@ -18,6 +18,7 @@ public final class LeanCity {
     private static final int MOST_FIRM = 999;
     private static final int MOST_IVY = 9;
     private static final int MOST_AGE = 99;
+    private static final int MOST_HOLD = 99;
     private static final int MOST_PART = 9;
     private static final int MOST_WEEK = 9999;
     private static final int MOST_EVENINGS = 70;
@@ -805,12 +806,18 @@ public final class LeanCity {
         breaks.collect(now, probe, course.strain);
     }
 
-    /** The bytes that were fed, how far a text in them has been read, and where the latest text was wrong. */
+    /** The bytes that were fed; of a text in them the thing that comes next, and where the latest text was wrong. */
     private static final class Tape {
+        // Kinds of things beside single signs, which are told by their bytes.
+        private static final int WORD = 256;
+        private static final int FIGURES = 257;
+        private static final int END = -1;
         final int[] bytes = new int[TAPE_BYTES];
         int length;
-        int place;
         int wrong = NONE;
+        int first;
+        private int behind;
+        private int kind = END;
 
         void append(int number) {
             for (int shift = 24; shift >= 0; shift -= 8) {
@@ -825,111 +832,140 @@ public final class LeanCity {
             return index >= 0 && index < bytes.length ? bytes[index] : NONE;
         }
 
-        void begin() {
-            place = 0;
+        void open() {
             wrong = NONE;
+            behind = 0;
+            step();
         }
 
-        boolean fail(int index) {
+        /** Goes on to the next word, figures, single sign, or the end. */
+        void step() {
+            int end = Math.min(length, bytes.length);
+            int i = Math.max(0, behind);
+            while (i < end && bytes[i] == ' ') {
+                i++;
+            }
+            first = i;
+            int sign = i < end ? bytes[i] : END;
+            boolean word = sign >= 'a' && sign <= 'z';
+            boolean figures = sign >= '0' && sign <= '9';
+            int least = word ? 'a' : '0';
+            int most = word ? 'z' : '9';
+            kind = word ? WORD : figures ? FIGURES : sign;
+            if (word || figures) {
+                while (i < end && bytes[i] >= least && bytes[i] <= most) {
+                    i++;
+                }
+            } else if (i < end) {
+                i++;
+            }
+            behind = i;
+        }
+
+        boolean isDone() {
+            return kind == END;
+        }
+
+        boolean isNumber() {
+            return kind == FIGURES;
+        }
+
+        boolean isSign(char sign) {
+            return kind == sign;
+        }
+
+        /** Which of some words, told with a blank between, comes next. */
+        int wordOf(String words) {
+            if (kind != WORD) {
+                return NONE;
+            }
+            int which = 0;
+            int i = first;
+            boolean same = true;
+            for (int k = 0; k <= words.length(); k++) {
+                int sign = k < words.length() ? words.charAt(k) : ' ';
+                if (sign != ' ') {
+                    same = same && i >= 0 && i < behind && i < bytes.length && bytes[i] == sign;
+                    i++;
+                } else if (same && i == behind) {
+                    return which;
+                } else {
+                    which++;
+                    i = first;
+                    same = true;
+                }
+            }
+            return NONE;
+        }
+
+        int take(String words) {
+            int which = wordOf(words);
+            if (which != NONE) {
+                step();
+            }
+            return which;
+        }
+
+        boolean takes(String word) {
+            return take(word) != NONE;
+        }
+
+        boolean needs(String word) {
+            return take(word) != NONE || fail();
+        }
+
+        boolean takesSign(char sign) {
+            if (kind != sign) {
+                return false;
+            }
+            step();
+            return true;
+        }
+
+        boolean fail() {
+            wrong = first;
+            return false;
+        }
+
+        boolean failAt(int index) {
             wrong = index;
             return false;
         }
 
-        boolean failHere() {
-            skip();
-            return fail(place);
-        }
-
-        void skip() {
-            while (place < length && byteAt(place) == ' ') {
-                place++;
-            }
-        }
-
-        boolean isDone() {
-            skip();
-            return place >= length;
-        }
-
-        boolean takeSign(char sign) {
-            if (isDone() || byteAt(place) != sign) {
-                return false;
-            }
-            place++;
-            return true;
-        }
-
-        boolean takeWord(String word) {
-            skip();
-            int behind = runEnd('a', 'z');
-            if (behind - place != word.length()) {
-                return false;
-            }
-            for (int i = 0; i < word.length(); i++) {
-                if (byteAt(place + i) != word.charAt(i)) {
-                    return false;
-                }
-            }
-            place = behind;
-            return true;
-        }
-
-        boolean needWord(String word) {
-            return takeWord(word) || failHere();
-        }
-
-        boolean isAtNumber() {
-            skip();
-            return runEnd('0', '9') > place;
-        }
-
         int takeNumber(int least, int most) {
-            skip();
-            int behind = runEnd('0', '9');
-            int digits = behind - place;
             int value = 0;
-            for (int i = 0; i < digits && i < 3; i++) {
-                value = value * 10 + byteAt(place + i) - '0';
+            for (int i = first; i < behind && i < first + 3; i++) {
+                value = value * 10 + byteAt(i) - '0';
             }
-            if (digits < 1 || digits > 3 || value < least || value > most) {
-                fail(place);
+            if (kind != FIGURES || behind - first > 3 || value < least || value > most) {
+                fail();
                 return NONE;
             }
-            place = behind;
+            step();
             return value;
         }
 
         int takeDays() {
-            skip();
-            int behind = runEnd('0', '9');
             int days = 0;
-            boolean right = behind - place == DAYS;
+            boolean right = kind == FIGURES && behind - first == DAYS;
             for (int i = 0; right && i < DAYS; i++) {
-                int figure = byteAt(place + i) - '0';
+                int figure = byteAt(first + i) - '0';
                 right = figure == 0 || figure == 1;
                 days |= figure << i;
             }
             if (!right) {
-                fail(place);
+                fail();
                 return NONE;
             }
-            place = behind;
+            step();
             return days;
-        }
-
-        private int runEnd(char least, char most) {
-            int behind = place;
-            while (behind < length && byteAt(behind) >= least && byteAt(behind) <= most) {
-                behind++;
-            }
-            return behind;
         }
     }
 
     /** Reads a text of THE CITY into a city that is thrown away, if the text is wrong. */
     private static final class CityReader {
         static boolean read(Tape tape, City city) {
-            tape.begin();
+            tape.open();
             if (tape.isDone()) {
                 return true;
             }
@@ -940,66 +976,54 @@ public final class LeanCity {
                 if (tape.isDone()) {
                     return true;
                 }
-                if (!tape.takeSign(';')) {
-                    return tape.failHere();
+                if (!tape.takesSign(';')) {
+                    return tape.fail();
                 }
             }
-            return tape.failHere();
+            return tape.fail();
         }
 
         private static boolean readLine(Tape tape, City city) {
-            tape.skip();
-            int first = tape.place;
-            if (tape.takeWord("house")) {
-                return city.houses < HOUSES ? readHouse(tape, city) : tape.fail(first);
+            int begin = tape.first;
+            switch (tape.take("house person lean wander prop evening week")) {
+                case 0:
+                    return city.houses < HOUSES ? readHouse(tape, city) : tape.failAt(begin);
+                case 1:
+                    return city.people < PEOPLE ? readPerson(tape, city) : tape.failAt(begin);
+                case 2:
+                    return readLean(tape, city);
+                case 3:
+                    city.wander = tape.takeNumber(0, 100);
+                    return city.wander != NONE;
+                case 4:
+                    city.prop = tape.takeNumber(1, 99);
+                    return city.prop != NONE;
+                case 5:
+                    city.evening = tape.takeNumber(0, DAYS - 1);
+                    return city.evening != NONE;
+                case 6:
+                    city.week = tape.takeNumber(0, 999);
+                    return city.week != NONE;
+                default:
+                    return tape.fail();
             }
-            if (tape.takeWord("person")) {
-                return city.people < PEOPLE ? readPerson(tape, city) : tape.fail(first);
-            }
-            if (tape.takeWord("lean")) {
-                return readLean(tape, city);
-            }
-            return readSetting(tape, city);
-        }
-
-        private static boolean readSetting(Tape tape, City city) {
-            if (tape.takeWord("wander")) {
-                city.wander = tape.takeNumber(0, 100);
-                return city.wander != NONE;
-            }
-            if (tape.takeWord("prop")) {
-                city.prop = tape.takeNumber(1, 99);
-                return city.prop != NONE;
-            }
-            if (tape.takeWord("evening")) {
-                city.evening = tape.takeNumber(0, DAYS - 1);
-                return city.evening != NONE;
-            }
-            if (tape.takeWord("week")) {
-                city.week = tape.takeNumber(0, 999);
-                return city.week != NONE;
-            }
-            return tape.failHere();
         }
 
         private static boolean readHouse(Tape tape, City city) {
-            int weight = tape.needWord("weight") ? tape.takeNumber(1, MOST_WEIGHT) : NONE;
+            int weight = tape.needs("weight") ? tape.takeNumber(1, MOST_WEIGHT) : NONE;
             if (weight == NONE) {
                 return false;
             }
-            int firm = tape.needWord("firm") ? tape.takeNumber(0, MOST_FIRM) : NONE;
+            int firm = tape.needs("firm") ? tape.takeNumber(0, MOST_FIRM) : NONE;
             if (firm == NONE) {
                 return false;
             }
-            int ivy = tape.takeWord("ivy") ? tape.takeNumber(0, MOST_IVY) : 0;
+            int ivy = tape.takes("ivy") ? tape.takeNumber(0, MOST_IVY) : 0;
             if (ivy == NONE) {
                 return false;
             }
-            int age = tape.takeWord("age") ? tape.takeNumber(0, MOST_AGE) : 0;
-            if (age == NONE) {
-                return false;
-            }
-            return city.addHouse(weight, firm, ivy, age) != NONE;
+            int age = tape.takes("age") ? tape.takeNumber(0, MOST_AGE) : 0;
+            return age != NONE && city.addHouse(weight, firm, ivy, age) != NONE;
         }
 
         private static boolean readLean(Tape tape, City city) {
@@ -1007,16 +1031,15 @@ public final class LeanCity {
             if (house == NONE) {
                 return false;
             }
-            tape.skip();
-            int second = tape.place;
+            int second = tape.first;
             int other = readStanding(tape, city);
             if (other == NONE) {
                 return false;
             }
             if (other == house) {
-                return tape.fail(second);
+                return tape.failAt(second);
             }
-            int part = tape.needWord("part") ? tape.takeNumber(0, MOST_PART) : NONE;
+            int part = tape.needs("part") ? tape.takeNumber(0, MOST_PART) : NONE;
             if (part == NONE) {
                 return false;
             }
@@ -1025,27 +1048,23 @@ public final class LeanCity {
         }
 
         private static boolean readPerson(Tape tape, City city) {
-            int house = tape.needWord("at") ? readStanding(tape, city) : NONE;
+            int house = tape.needs("at") ? readStanding(tape, city) : NONE;
             if (house == NONE) {
                 return false;
             }
-            int hold = tape.needWord("hold") ? tape.takeNumber(0, 99) : NONE;
+            int hold = tape.needs("hold") ? tape.takeNumber(0, MOST_HOLD) : NONE;
             if (hold == NONE) {
                 return false;
             }
-            int days = tape.takeWord("on") ? tape.takeDays() : ALL_DAYS;
-            if (days == NONE) {
-                return false;
-            }
-            return city.addPerson(house, hold, days);
+            int days = tape.takes("on") ? tape.takeDays() : ALL_DAYS;
+            return days != NONE && city.addPerson(house, hold, days);
         }
 
         private static int readStanding(Tape tape, City city) {
-            tape.skip();
-            int begin = tape.place;
+            int begin = tape.first;
             int house = tape.takeNumber(0, city.houses - 1);
             if (house != NONE && !city.isUp(house)) {
-                tape.fail(begin);
+                tape.failAt(begin);
                 return NONE;
             }
             return house;
@@ -1433,7 +1452,7 @@ public final class LeanCity {
     /** Reads THE LAW into a draft that is thrown away, if the text is wrong. */
     private static final class LawReader {
         static boolean read(Tape tape, Law law) {
-            tape.begin();
+            tape.open();
             law.clear();
             if (tape.isDone()) {
                 return true;
@@ -1445,145 +1464,91 @@ public final class LeanCity {
                 if (tape.isDone()) {
                     return true;
                 }
-                if (!tape.takeSign(';')) {
-                    return tape.failHere();
+                if (!tape.takesSign(';')) {
+                    return tape.fail();
                 }
             }
-            return tape.failHere();
+            return tape.fail();
         }
 
         private static boolean readLine(Tape tape, Law law) {
-            int which = readKind(tape);
+            int which = tape.take("firm soft grow");
             if (which == NONE) {
-                return tape.failHere();
+                return tape.fail();
             }
             int n = tape.takeNumber(0, 99);
             if (n == NONE) {
                 return false;
             }
             law.openLine(which, n);
-            if (tape.takeWord("if") && !readChoice(tape, law, 0)) {
+            if (tape.takes("if") && !readChoice(tape, law, 0)) {
                 return false;
             }
             law.closeLine();
             return true;
         }
 
-        private static int readKind(Tape tape) {
-            if (tape.takeWord("firm")) {
-                return FIRM_LINE;
-            }
-            if (tape.takeWord("soft")) {
-                return SOFT_LINE;
-            }
-            return tape.takeWord("grow") ? GROW_LINE : NONE;
-        }
-
         private static boolean readChoice(Tape tape, Law law, int deep) {
-            if (!readAll(tape, law, deep)) {
-                return false;
+            boolean right = readAll(tape, law, deep);
+            for (int i = 0; right && i < TAPE_BYTES && tape.takes("or"); i++) {
+                right = readAll(tape, law, deep) && law.addStep(OP_OR, 0);
             }
-            while (tape.takeWord("or")) {
-                if (!readAll(tape, law, deep)) {
-                    return false;
-                }
-                law.addStep(OP_OR, 0);
-            }
-            return true;
+            return right;
         }
 
         private static boolean readAll(Tape tape, Law law, int deep) {
-            if (!readAtom(tape, law, deep)) {
-                return false;
+            boolean right = readAtom(tape, law, deep);
+            for (int i = 0; right && i < TAPE_BYTES && tape.takes("and"); i++) {
+                right = readAtom(tape, law, deep) && law.addStep(OP_AND, 0);
             }
-            while (tape.takeWord("and")) {
-                if (!readAtom(tape, law, deep)) {
-                    return false;
-                }
-                law.addStep(OP_AND, 0);
-            }
-            return true;
+            return right;
         }
 
         private static boolean readAtom(Tape tape, Law law, int deep) {
-            tape.skip();
-            int first = tape.place;
-            if (tape.takeWord("not")) {
-                if (deep >= DEEPEST) {
-                    return tape.fail(first);
-                }
+            boolean isNot = tape.wordOf("not") != NONE;
+            boolean isOpen = tape.isSign('(');
+            if ((isNot || isOpen) && deep >= DEEPEST) {
+                return tape.fail();
+            }
+            if (isNot) {
+                tape.step();
                 return readAtom(tape, law, deep + 1) && law.addStep(OP_NOT, 0);
             }
-            if (tape.takeSign('(')) {
-                if (deep >= DEEPEST) {
-                    return tape.fail(first);
-                }
-                return readChoice(tape, law, deep + 1) && (tape.takeSign(')') || tape.failHere());
+            if (isOpen) {
+                tape.step();
+                return readChoice(tape, law, deep + 1) && (tape.takesSign(')') || tape.fail());
             }
-            if (tape.takeWord("leaning")) {
-                return law.addStep(FACT_LEANING, 0);
-            }
-            if (tape.takeWord("leant")) {
-                return law.addStep(FACT_LEANT, 0);
-            }
-            if (tape.takeWord("held")) {
-                return law.addStep(FACT_HELD, 0);
-            }
-            return readComparison(tape, law);
+            int atom = tape.take("leaning leant held");
+            return atom != NONE ? law.addStep(FACT_LEANING + atom, 0) : readComparison(tape, law);
         }
 
         private static boolean readComparison(Tape tape, Law law) {
             if (!readSum(tape, law)) {
                 return false;
             }
-            if (tape.takeSign('<')) {
-                return readSum(tape, law) && law.addStep(OP_LESS, 0);
+            boolean less = tape.isSign('<');
+            if (!less && !tape.isSign('>')) {
+                return tape.fail();
             }
-            if (tape.takeSign('>')) {
-                return readSum(tape, law) && law.addStep(OP_MORE, 0);
-            }
-            return tape.failHere();
+            tape.step();
+            return readSum(tape, law) && law.addStep(less ? OP_LESS : OP_MORE, 0);
         }
 
         private static boolean readSum(Tape tape, Law law) {
-            if (!readSummand(tape, law)) {
-                return false;
+            boolean right = readSummand(tape, law);
+            for (int i = 0; right && i < TAPE_BYTES && tape.takesSign('+'); i++) {
+                right = readSummand(tape, law) && law.addStep(OP_PLUS, 0);
             }
-            while (tape.takeSign('+')) {
-                if (!readSummand(tape, law)) {
-                    return false;
-                }
-                law.addStep(OP_PLUS, 0);
-            }
-            return true;
+            return right;
         }
 
         private static boolean readSummand(Tape tape, Law law) {
-            if (tape.isAtNumber()) {
+            if (tape.isNumber()) {
                 int n = tape.takeNumber(0, 999);
                 return n != NONE && law.addStep(OP_NUMBER, n);
             }
-            int fact = readFact(tape);
-            return fact != NONE ? law.addStep(fact, 0) : tape.failHere();
-        }
-
-        private static int readFact(Tape tape) {
-            if (tape.takeWord("house")) {
-                return FACT_HOUSE;
-            }
-            if (tape.takeWord("weight")) {
-                return FACT_WEIGHT;
-            }
-            if (tape.takeWord("ivy")) {
-                return FACT_IVY;
-            }
-            if (tape.takeWord("age")) {
-                return FACT_AGE;
-            }
-            if (tape.takeWord("evening")) {
-                return FACT_EVENING;
-            }
-            return tape.takeWord("press") ? FACT_PRESS : NONE;
+            int fact = tape.take("house weight ivy age evening press");
+            return fact != NONE ? law.addStep(fact, 0) : tape.fail();
         }
     }
 
@@ -1860,51 +1825,44 @@ public final class LeanCity {
         private static final int SETS = 1 << HOUSES;
         // Of each person and set of houses that are taken: the most that it and all behind it can hold.
         private final int[] most = new int[(PEOPLE + 1) * SETS];
+        private final int[] gains = new int[PEOPLE * HOUSES];
         private final int[] place = new int[PEOPLE];
 
+        /** How much is held at most of what sags without any people. */
         int solve(City city, Strain strain) {
-            for (int taken = 0; taken < SETS; taken++) {
-                most[PEOPLE * SETS + taken] = 0;
+            for (int p = 0; p < PEOPLE; p++) {
+                for (int h = 0; h < HOUSES; h++) {
+                    gains[p * HOUSES + h] = gain(city, strain, p, h);
+                }
             }
             for (int p = PEOPLE - 1; p >= 0; p--) {
                 for (int taken = 0; taken < SETS; taken++) {
-                    most[p * SETS + taken] = mostOf(city, strain, p, taken);
+                    // Those ahead can't have taken more than one house each.
+                    if (Integer.bitCount(taken) <= p) {
+                        most[p * SETS + taken] = mostOf(p, taken);
+                    }
                 }
             }
-            placeAll(city, strain);
+            placeAll();
             return most[0];
         }
 
-        private int mostOf(City city, Strain strain, int person, int taken) {
+        private static int gain(City city, Strain strain, int person, int house) {
+            if (house < 0 || house >= HOUSES || !city.isUp(house) || !city.isThere(person, city.evening)) {
+                return 0;
+            }
+            return Math.max(0, Math.min(city.holdOf(person), strain.sags[house]));
+        }
+
+        private int mostOf(int person, int taken) {
             int best = rest(person + 1, taken);
             for (int h = 0; h < HOUSES; h++) {
-                if (city.isUp(h) && (taken >> h & 1) == 0) {
-                    best = Math.max(best, gain(city, strain, person, h) + rest(person + 1, taken | 1 << h));
+                int gain = gains[person * HOUSES + h];
+                if (gain > 0 && (taken >> h & 1) == 0) {
+                    best = Math.max(best, gain + rest(person + 1, taken | 1 << h));
                 }
             }
             return best;
-        }
-
-        private void placeAll(City city, Strain strain) {
-            int taken = 0;
-            for (int p = 0; p < PEOPLE; p++) {
-                place[p] = firstPlace(city, strain, p, taken);
-                taken |= place[p] != NONE ? 1 << place[p] : 0;
-            }
-        }
-
-        private int firstPlace(City city, Strain strain, int person, int taken) {
-            int all = rest(person, taken);
-            if (rest(person + 1, taken) == all) {
-                return NONE;
-            }
-            for (int h = 0; h < HOUSES; h++) {
-                if (city.isUp(h) && (taken >> h & 1) == 0
-                        && gain(city, strain, person, h) + rest(person + 1, taken | 1 << h) == all) {
-                    return h;
-                }
-            }
-            return NONE;
         }
 
         private int rest(int person, int taken) {
@@ -1912,11 +1870,25 @@ public final class LeanCity {
             return cell >= 0 && cell < most.length ? most[cell] : 0;
         }
 
-        private static int gain(City city, Strain strain, int person, int house) {
-            if (!city.isPerson(person) || !city.isThere(person, city.evening) || !city.isUp(house)) {
-                return 0;
+        private void placeAll() {
+            int taken = 0;
+            for (int p = 0; p < PEOPLE; p++) {
+                int house = firstPlace(p, taken);
+                place[p] = house;
+                taken |= house != NONE ? 1 << house : 0;
             }
-            return Math.max(0, Math.min(city.holdOf(person), strain.sags[house]));
+        }
+
+        /** A place by which nothing is held is never the first one: none is ahead of it and leaves more to others. */
+        private int firstPlace(int person, int taken) {
+            int all = rest(person, taken);
+            for (int h = 0; h < HOUSES && rest(person + 1, taken) != all; h++) {
+                int gain = gains[person * HOUSES + h];
+                if (gain > 0 && (taken >> h & 1) == 0 && gain + rest(person + 1, taken | 1 << h) == all) {
+                    return h;
+                }
+            }
+            return NONE;
         }
 
         int placeOf(int person) {
