@@ -13,6 +13,7 @@ public final class LeanCity {
     private static final int CITY_LINES = 14;
     private static final int LAW_LINES = 12;
     private static final int DEEPEST = 6;
+    private static final int MOST_NUMBER = 999;
     private static final int PRESS_TURNS = 12;
     private static final int MOST_WEIGHT = 99;
     private static final int MOST_FIRM = 999;
@@ -818,6 +819,7 @@ public final class LeanCity {
         int first;
         private int behind;
         private int kind = END;
+        private int value;
 
         void append(int number) {
             for (int shift = 24; shift >= 0; shift -= 8) {
@@ -852,8 +854,10 @@ public final class LeanCity {
             int least = word ? 'a' : '0';
             int most = word ? 'z' : '9';
             kind = word ? WORD : figures ? FIGURES : sign;
+            value = 0;
             if (word || figures) {
                 while (i < end && bytes[i] >= least && bytes[i] <= most) {
+                    value = Math.min(MOST_NUMBER + 1, value * 10 + bytes[i] - least);
                     i++;
                 }
             } else if (i < end) {
@@ -864,10 +868,6 @@ public final class LeanCity {
 
         boolean isDone() {
             return kind == END;
-        }
-
-        boolean isNumber() {
-            return kind == FIGURES;
         }
 
         boolean isSign(char sign) {
@@ -932,17 +932,19 @@ public final class LeanCity {
             return false;
         }
 
+        int numberAhead(int least, int most) {
+            boolean right = kind == FIGURES && behind - first <= 3 && value >= least && value <= most;
+            return right ? value : NONE;
+        }
+
         int takeNumber(int least, int most) {
-            int value = 0;
-            for (int i = first; i < behind && i < first + 3; i++) {
-                value = value * 10 + byteAt(i) - '0';
-            }
-            if (kind != FIGURES || behind - first > 3 || value < least || value > most) {
+            int number = numberAhead(least, most);
+            if (number == NONE) {
                 fail();
                 return NONE;
             }
             step();
-            return value;
+            return number;
         }
 
         int takeDays() {
@@ -1244,7 +1246,7 @@ public final class LeanCity {
         }
 
         boolean isThere(int person, int day) {
-            return day >= 0 && day < DAYS && (daysOf(person) >> day & 1) == 1;
+            return isPerson(person) && day >= 0 && day < DAYS && (days[person] >> day & 1) == 1;
         }
 
         int holdOfAll() {
@@ -1519,10 +1521,9 @@ public final class LeanCity {
                 return readChoice(tape, law, deep + 1) && (tape.takesSign(')') || tape.fail());
             }
             int atom = tape.take("leaning leant held");
-            return atom != NONE ? law.addStep(FACT_LEANING + atom, 0) : readComparison(tape, law);
-        }
-
-        private static boolean readComparison(Tape tape, Law law) {
+            if (atom != NONE) {
+                return law.addStep(FACT_LEANING + atom, 0);
+            }
             if (!readSum(tape, law)) {
                 return false;
             }
@@ -1535,20 +1536,23 @@ public final class LeanCity {
         }
 
         private static boolean readSum(Tape tape, Law law) {
-            boolean right = readSummand(tape, law);
-            for (int i = 0; right && i < TAPE_BYTES && tape.takesSign('+'); i++) {
-                right = readSummand(tape, law) && law.addStep(OP_PLUS, 0);
+            for (int parts = 0; parts < TAPE_BYTES; parts++) {
+                int fact = tape.wordOf("house weight ivy age evening press");
+                int n = tape.numberAhead(0, MOST_NUMBER);
+                if (fact == NONE && n == NONE) {
+                    return tape.fail();
+                }
+                law.addStep(fact == NONE ? OP_NUMBER : fact, n);
+                if (parts > 0) {
+                    law.addStep(OP_PLUS, 0);
+                }
+                tape.step();
+                if (!tape.isSign('+')) {
+                    return true;
+                }
+                tape.step();
             }
-            return right;
-        }
-
-        private static boolean readSummand(Tape tape, Law law) {
-            if (tape.isNumber()) {
-                int n = tape.takeNumber(0, 999);
-                return n != NONE && law.addStep(OP_NUMBER, n);
-            }
-            int fact = tape.take("house weight ivy age evening press");
-            return fact != NONE ? law.addStep(fact, 0) : tape.fail();
+            return tape.fail();
         }
     }
 
