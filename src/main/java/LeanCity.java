@@ -214,9 +214,7 @@ public final class LeanCity {
     // ---- acts ----
 
     public int evenings(int n) throws IllegalArgumentException {
-        if (n < 1 || n > MOST_EVENINGS) {
-            throw new IllegalArgumentException();
-        }
+        checkAmount(n, 1, MOST_EVENINGS);
         remember();
         int before = Integer.bitCount(now.up);
         course.run(now, rules, n, true);
