@@ -53,11 +53,20 @@ public final class ActPromises {
         Check.is("two thirds of 20", y.house(2, 5), 13);
         Check.is("price, 0 at least", y.house(0, 11), 0);
         Check.is("price of ivy", y.house(1, 11), 9);
-        // 12 turns: the ring is still filling up then.
         LeanCity ring = Check.city("house weight 99 firm 0;house weight 99 firm 0;lean 0 1 part 9;lean 1 0 part 1");
         Check.is("press in a ring", ring.house(0, 5), 98);
+        // A ring of six, in which the 11th, the 12th and a 13th turn would each change something.
+        LeanCity six = Check.city("house weight 44 firm 9;house weight 30 firm 9;house weight 4 firm 9;house weight 83 firm 9;"
+                + "house weight 90 firm 9;house weight 89 firm 9;lean 0 1 part 3;lean 1 2 part 9;lean 2 3 part 6;lean 3 4 part 5;"
+                + "lean 4 5 part 5;lean 5 0 part 7");
+        int[] press = {80, 62, 46, 25, 54, 71};
+        for (int h = 0; h < 6; h++) {
+            Check.is("12 turns, of " + h, six.house(h, 5), press[h]);
+        }
         LeanCity none = Check.city("house weight 5 firm 0;house weight 5 firm 0;lean 0 1 part 1;lean 1 0 part 1");
         Check.is("share of a ring", none.house(0, 10), 50);
+        LeanCity light = Check.city("house weight 1 firm 0;house weight 1 firm 0;lean 0 1 part 1;lean 1 0 part 1");
+        Check.is("share without anything that is borne", light.house(0, 10), 0);
     }
 
     private static void parts() {

@@ -244,6 +244,10 @@ public final class FallPromises {
             Check.is("tape used up", x.feed(0, 0, 0, 0, 0), 20);
         }
         Check.is("40 bytes", broken(x, false, new int[40]), 4);
+        int[] twenty = new int[40];
+        twenty[38] = 1;
+        twenty[39] = 9;
+        Check.is("the 20th row", broken(x, false, twenty), 0);
         Check.is("tape used up", x.feed(0, 0, 0, 0, 0), 20);
     }
 }

@@ -172,6 +172,7 @@ public final class LeanPromises {
         x.move(1, 0);
         Check.is("not fewer", x.swap(0, 1), false);
         Check.fails("swap(0, 2)", IndexOutOfBoundsException.class, () -> x.swap(0, 2));
+        Check.fails("swap(2, 0)", IndexOutOfBoundsException.class, () -> x.swap(2, 0));
         Check.fails("swap(2, 2)", IndexOutOfBoundsException.class, () -> x.swap(2, 2));
         Check.fails("swap(1, 1)", IllegalArgumentException.class, () -> x.swap(1, 1));
         // Where one AT none is, the other one goes.
@@ -198,6 +199,7 @@ public final class LeanPromises {
         Check.is("9 and 60", x.rests(0, 3), 0b0001);
         Check.is("60 and 99", x.rests(3, 5), 0b0001);
         Check.fails("rests(0, 6)", IndexOutOfBoundsException.class, () -> x.rests(0, 6));
+        Check.fails("rests(6, 0)", IndexOutOfBoundsException.class, () -> x.rests(6, 0));
         Check.fails("rests(-1, -1)", IndexOutOfBoundsException.class, () -> x.rests(-1, -1));
         Check.fails("rests(4, 4)", IllegalArgumentException.class, () -> x.rests(4, 4));
     }
