@@ -65,6 +65,7 @@ public final class ActPromises {
         }
         LeanCity none = Check.city("house weight 5 firm 0;house weight 5 firm 0;lean 0 1 part 1;lean 1 0 part 1");
         Check.is("share of a ring", none.house(0, 10), 50);
+        Check.is("share of 1", Check.city("house weight 1 firm 1").house(0, 10), 100);
         LeanCity light = Check.city("house weight 1 firm 0;house weight 1 firm 0;lean 0 1 part 1;lean 1 0 part 1");
         Check.is("share without anything that is borne", light.house(0, 10), 0);
     }

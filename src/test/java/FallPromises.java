@@ -19,7 +19,9 @@ public final class FallPromises {
         LeanCity x = Check.city("house weight 30 firm 25;house weight 20 firm 8;house weight 8 firm 7;lean 2 1 part 1;lean 1 0 part 1;"
                 + "person at 0 hold 30 on 1110111");
         // PRESS 12, 4, 0: 0 bears 42 and stands by 55, but in EVENING 3.
+        Check.is("rounds(3) ahead of all", x.rounds(3), 3);
         Check.is("falls(0)", x.falls(0), 0);
+        Check.is("rounds(3) behind another one", x.rounds(3), 3);
         Check.is("rounds(0)", x.rounds(0), 0);
         // 0 first; then 1 bears 24; then 2 bears 8.
         Check.is("falls(3)", x.falls(3), 7);
@@ -128,8 +130,9 @@ public final class FallPromises {
         LeanCity x = Check.city("house weight 30 firm 50;house weight 20 firm 9;house weight 9 firm 9;house weight 9 firm 9;lean 1 0 part 1");
         x.raze(3);
         // 2 (0), 0 and 1 (1): 2. 0 and 1 (0), 2 (1): 1.
-        Check.is("means", means(x, 0, 2), 2);
         Check.is("first", order(x, 0, 0, 2), 2);
+        Check.is("means", means(x, 0, 2), 2);
+        Check.is("first of another set", order(x, 0, 0), 0);
         Check.is("second", order(x, 1, 0, 2), 0);
         Check.is("third", order(x, 2, 0, 2), LeanCity.NONE);
         Check.is("-1st", order(x, -1, 0, 2), LeanCity.NONE);

@@ -153,6 +153,10 @@ public final class LeanPromises {
         Check.is("none is the least", x.gates(0), LeanCity.NONE);
         Check.is("then the houses", x.gates(1), 0);
         Check.is("the other one", x.gates(2), 1);
+        LeanCity last = Check.city("house weight 10 firm 0;person at 0 hold 0;person at 0 hold 1;person at 0 hold 2;person at 0 hold 3;"
+                + "person at 0 hold 4;person at 0 hold 5");
+        Check.is("the last one", last.gates(-1), 5);
+        Check.is("where it is", last.gates(5), 0);
         // More people than houses that sag, and one of little hold.
         LeanCity y = Check.city("house weight 10 firm 0;house weight 50 firm 0;house weight 30 firm 0;person at 0 hold 5;"
                 + "person at 0 hold 40;person at 0 hold 60;person at 0 hold 30;person at 0 hold 10;person at 0 hold 1");
@@ -194,6 +198,7 @@ public final class LeanPromises {
         Check.is("both little", x.rests(0, 1), 0b1001);
         // 10 has -3 either way, if the other one goes home.
         Check.is("10 and 9", x.rests(2, 0), 0b1001);
+        Check.is("9 and 10", x.rests(0, 2), 0b1001);
         // 60 leans alone for 2, but the other one would lean for 3.
         Check.is("60 and 9", x.rests(3, 0), 0b0001);
         Check.is("9 and 60", x.rests(0, 3), 0b0001);

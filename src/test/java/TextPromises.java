@@ -44,6 +44,11 @@ public final class TextPromises {
         y.end(8);
         Check.is("city of fed bytes", y.city(), 1);
         Check.is("its week", y.count(5), 998);
+        // What was cut off is no part of the text, though it is the same word or number.
+        y.feed(('w' << 24) | ('e' << 16) | ('e' << 8) | 'k', (' ' << 24) | ('1' << 16) | ('2' << 8) | '3', 0, 0, 0);
+        y.end(7);
+        Check.is("city of what is left", y.city(), 2);
+        Check.is("its week", y.count(5), 12);
     }
 
     private static void ending() {
@@ -94,6 +99,7 @@ public final class TextPromises {
         Check.wrongCity(";", 0);
         Check.wrongCity("House weight 1 firm 1", 0);
         Check.wrongCity("houses weight 1 firm 1", 0);
+        Check.wrongCity("housez weight 1 firm 1", 0);
         Check.wrongCity("  houseweight 1 firm 1", 2);
         Check.wrongCity("house  ", 7);
         Check.wrongCity("house firm 1", 6);
@@ -114,6 +120,12 @@ public final class TextPromises {
         Check.wrongCity("house weight 1 firm 1;person at 0 hold 1 on 11111111", 44);
         Check.wrongCity("house weight 1 firm 1;person at 0 hold 1 on", 43);
         Check.wrongCity("house weight 1 firm 1;person at 0 hold 1 on x", 44);
+        Check.wrongCity("house weight 1 firm 1;person at 0 hold 1 on 1111112", 44);
+        Check.wrongCity("house weight 1 firm 1;person at 0 hold 1 on 9000000", 44);
+        Check.wrongCity("evening 7", 8);
+        Check.wrongCity("evening 8", 8);
+        Check.wrongCity("prop 100", 5);
+        Check.wrongCity("week 1;week 2;week 3;week 4;week 5;week 6;week 7;week 8;week 9;week 10;week 11;week 12;week 13;week 14;week 15", 103);
         Check.wrongCity("week 1 ;", 8);
         Check.wrongCity("week 1 ;  ;", 10);
         Check.wrongCity("week 1 week 2", 7);
@@ -179,6 +191,11 @@ public final class TextPromises {
         Check.is("12 lines", Check.law(x, "grow 1;grow 1;grow 1;grow 1;grow 1;grow 1;grow 1;grow 1;grow 1;grow 1;grow 1;grow 99"), 12);
         Check.is("sum of 12 lines", x.house(0, 9), 110);
         Check.is("tape is used up", x.feed(0, 0, 0, 0, 0), 20);
+        for (int i = 0; i < 60; i++) {
+            Check.is("one more law", Check.law(x, "grow 3 if not held and weight + ivy + age + press > 2 and house < 1 + 1 + 1"), 1);
+        }
+        Check.is("by the latest of many", x.house(0, 9), 3);
+        Check.is("by the latest of many, held", x.house(1, 9), 0);
     }
 
     private static void wrongLaws() {
@@ -207,6 +224,7 @@ public final class TextPromises {
         Check.wrongLaw("firm 1 if (((not not not held and not held and (", 48);
         Check.wrongLaw("firm 1;;", 7);
         Check.wrongLaw("firm -1", 5);
+        Check.wrongLaw("grow 1;grow 1;grow 1;grow 1;grow 1;grow 1;grow 1;grow 1;grow 1;grow 1;grow 1;grow 1;grow 1", 84);
         Check.wrongLaw("grow 1;grow 1;grow 1;grow 1;grow 1;grow 1;grow 1;grow 1;grow 1;grow 1;grow 1;grow 1; x", 85);
         LeanCity x = Check.city("house weight 1 firm 1");
         Check.law(x, "grow 4");

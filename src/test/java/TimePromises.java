@@ -90,7 +90,7 @@ public final class TimePromises {
     private static void spans() {
         LeanCity x = Check.city("house weight 5 firm 1;house weight 5 firm 9;house weight 5 firm 2;person at 0 hold 9;person at 2 hold 3;wander 30");
         x.seed(77);
-        for (int n : new int[] {0, 1, 3, 10}) {
+        for (int n : new int[] {0, 1, 3, 4, 10}) {
             int least = 9;
             int most = 0;
             for (int seed = 1; seed <= 6; seed++) {
@@ -103,6 +103,9 @@ public final class TimePromises {
             Check.is("span(" + n + ", false)", x.span(n, false), least);
             Check.is("span(" + n + ", true)", x.span(n, true), most);
         }
+        // By 4 EVENINGS the least is that of SEED 1 alone, the greatest that of SEED 6 alone.
+        Check.is("span(4, false)", x.span(4, false), 1);
+        Check.is("span(4, true)", x.span(4, true), 3);
         Check.is("by no seed of its own", x.seed(1), 77);
         for (int n : new int[] {-1, 71}) {
             Check.fails("span(" + n + ")", IllegalArgumentException.class, () -> x.span(n, true));
