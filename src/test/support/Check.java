@@ -8,15 +8,43 @@ final class Check {
 
     private static int wrong = 0;
     private static int looked = 0;
+    private static int sentences = 0;
+    private static int lookedAhead = 0;
+    private static String sentence = "";
 
     private Check() {
+    }
+
+    /** What is looked at from here on is what one sentence of the document says, told with each answer that is not due. */
+    static void says(String words) {
+        endSentence();
+        sentences++;
+        lookedAhead = looked;
+        sentence = words;
+    }
+
+    private static void endSentence() {
+        if (!sentence.isEmpty() && looked == lookedAhead) {
+            miss("nothing was looked at");
+        }
+    }
+
+    private static void miss(String what) {
+        wrong++;
+        System.out.println(what + (sentence.isEmpty() ? "" : " [" + sentence + "]"));
     }
 
     static void is(String call, long got, long want) {
         looked++;
         if (got != want) {
-            wrong++;
-            System.out.println(call + " answered " + got + ", due is " + want);
+            miss(call + " answered " + got + ", due is " + want);
+        }
+    }
+
+    static void is(String call, String got, String want) {
+        looked++;
+        if (!got.equals(want)) {
+            miss(call + " answered\n  " + got + ", due is\n  " + want);
         }
     }
 
@@ -33,8 +61,7 @@ final class Check {
             got = e.getClass().getName();
         }
         if (!got.equals(due.getName())) {
-            wrong++;
-            System.out.println(call + " threw " + got + ", due is " + due.getName());
+            miss(call + " threw " + got + ", due is " + due.getName());
         }
     }
 
@@ -91,7 +118,7 @@ final class Check {
         tape(x, text);
         fails("city of '" + text + "'", IllegalArgumentException.class, x::city);
         is("fault of '" + text + "'", x.fault(), fault);
-        is("the tape behind '" + text + "'", x.feed(0, 0, 0, 0, 0), 20);
+        is("a tape that is not used up behind '" + text + "'", x.end(1), false);
     }
 
     static void wrongLaw(String text, int fault) {
@@ -100,11 +127,66 @@ final class Check {
         fails("law of '" + text + "'", IllegalArgumentException.class, x::law);
         is("fault of '" + text + "'", x.fault(), fault);
         is("lines behind '" + text + "'", x.count(3), -1);
-        is("the tape behind '" + text + "'", x.feed(0, 0, 0, 0, 0), 20);
+        is("a tape that is not used up behind '" + text + "'", x.end(1), false);
+    }
+
+    /** A ^ stands ahead of the first wrong byte of a text of THE CITY. */
+    static void cityAt(String marked) {
+        wrongCity(marked.replace("^", ""), marked.indexOf('^'));
+    }
+
+    static void cityAt(LeanCity x, String marked) {
+        wrongCity(x, marked.replace("^", ""), marked.indexOf('^'));
+    }
+
+    static void lawAt(String marked) {
+        wrongLaw(marked.replace("^", ""), marked.indexOf('^'));
+    }
+
+    /** A ^ stands ahead of the first wrong byte of a text of THE LAW, behind which the one ahead of it is still there. */
+    static void lawStays(LeanCity x, String marked) {
+        int lines = x.count(3);
+        tape(x, marked.replace("^", ""));
+        fails("law of '" + marked + "'", IllegalArgumentException.class, x::law);
+        is("fault of '" + marked + "'", x.fault(), marked.indexOf('^'));
+        is("lines behind '" + marked + "'", x.count(3), lines);
+    }
+
+    /** A text of THE CITY that is right, on a new object. */
+    static LeanCity right(String text) {
+        LeanCity x = new LeanCity();
+        tape(x, text);
+        is("city of '" + text + "'", cityOr(x), 1);
+        is("fault of '" + text + "'", x.fault(), LeanCity.NONE);
+        return x;
+    }
+
+    /** A text of THE LAW that is right. */
+    static void rightLaw(LeanCity x, String text, int lines) {
+        tape(x, text);
+        is("law of '" + text + "'", lawOr(x), lines);
+        is("fault of '" + text + "'", x.fault(), LeanCity.NONE);
+    }
+
+    private static int cityOr(LeanCity x) {
+        try {
+            return x.city();
+        } catch (RuntimeException e) {
+            return -99;
+        }
+    }
+
+    private static int lawOr(LeanCity x) {
+        try {
+            return x.law();
+        } catch (RuntimeException e) {
+            return -99;
+        }
     }
 
     static void done() {
-        System.out.println(looked + " looked at, " + wrong + " wrong");
+        endSentence();
+        System.out.println(looked + " looked at" + (sentences > 0 ? " for " + sentences + " sentences" : "") + ", " + wrong + " wrong");
         if (wrong != 0) {
             System.exit(1);
         }
