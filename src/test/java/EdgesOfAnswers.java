@@ -40,26 +40,6 @@ public final class EdgesOfAnswers {
         Check.done();
     }
 
-    private static int order(LeanCity x, int k, int... told) {
-        Check.tape(x, told);
-        return x.order(k);
-    }
-
-    private static int means(LeanCity x, int... told) {
-        Check.tape(x, told);
-        return x.means();
-    }
-
-    private static int broken(LeanCity x, boolean which, int... rows) {
-        Check.tape(x, rows);
-        return x.broken(which);
-    }
-
-    private static int tap(LeanCity x, int... rows) {
-        Check.tape(x, rows);
-        return x.tap();
-    }
-
     /** What a city without a HOUSE that stands answers, whether there is one FALLEN or not. */
     private static void answersOfNone(LeanCity x) {
         for (int e = 0; e < 7; e++) {
@@ -71,12 +51,12 @@ public final class EdgesOfAnswers {
         Check.is("key", x.key(), LeanCity.NONE);
         Check.is("weakest", x.weakest(), 0);
         for (int k = -1; k <= 5; k++) {
-            Check.is("order", order(x, k), LeanCity.NONE);
+            Check.is("order", Check.order(x, k), LeanCity.NONE);
         }
-        Check.is("means", means(x), 0);
-        Check.is("broken", broken(x, false), 1);
-        Check.is("which", broken(x, true), 64);
-        Check.is("tap", tap(x), LeanCity.NONE);
+        Check.is("means", Check.means(x), 0);
+        Check.is("broken", Check.broken(x, false), 1);
+        Check.is("which", Check.broken(x, true), 64);
+        Check.is("tap", Check.tap(x), LeanCity.NONE);
         Check.is("eases", x.eases(), LeanCity.NONE);
         Check.is("sagging", x.sagging(), 0);
         Check.is("ends", x.ends(), 0);
@@ -286,60 +266,60 @@ public final class EdgesOfAnswers {
     private static void orders() {
         Check.says("25: none may be told");
         LeanCity x = Check.city(EIGHT);
-        Check.is("order(0)", order(x, 0), LeanCity.NONE);
+        Check.is("order(0)", Check.order(x, 0), LeanCity.NONE);
         Check.says("26: none may be told");
-        Check.is("means", means(x), 0);
+        Check.is("means", Check.means(x), 0);
         Check.says("25: 5 may be told: the k-th");
         for (int k = 0; k < 5; k++) {
-            Check.is("order(" + k + ")", order(x, k, 7, 5, 3, 2, 0), new int[] {0, 2, 3, 5, 7}[k]);
+            Check.is("order(" + k + ")", Check.order(x, k, 7, 5, 3, 2, 0), new int[] {0, 2, 3, 5, 7}[k]);
         }
-        Check.is("means", means(x, 7, 5, 3, 2, 0), 10);
+        Check.is("means", Check.means(x, 7, 5, 3, 2, 0), 10);
         Check.says("25: NONE: there is no k-th");
         for (int k : new int[] {-1, 5, 6, Integer.MIN_VALUE, Integer.MAX_VALUE}) {
-            Check.is("order(" + k + ")", order(x, k, 7, 5, 3, 2, 0), LeanCity.NONE);
+            Check.is("order(" + k + ")", Check.order(x, k, 7, 5, 3, 2, 0), LeanCity.NONE);
         }
-        Check.is("of one", order(x, 0, 6), 6);
-        Check.is("of one", order(x, 1, 6), LeanCity.NONE);
+        Check.is("of one", Check.order(x, 0, 6), 6);
+        Check.is("of one", Check.order(x, 1, 6), LeanCity.NONE);
         Check.says("26: of one the place is 0");
-        Check.is("means", means(x, 6), 0);
-        Check.is("with what it pulls down", means(chain(), 0), 0);
+        Check.is("means", Check.means(x, 6), 0);
+        Check.is("with what it pulls down", Check.means(chain(), 0), 0);
         Check.says("25: of several the first: by the first unlike one, the lesser");
-        Check.is("of two alike", order(x, 0, 4, 1), 1);
-        Check.is("of two alike", order(x, 1, 4, 1), 4);
+        Check.is("of two alike", Check.order(x, 0, 4, 1), 1);
+        Check.is("of two alike", Check.order(x, 1, 4, 1), 4);
         Check.says("25: a HOUSE told is not a place told");
-        Check.is("told the other way", order(x, 0, 1, 4), 1);
+        Check.is("told the other way", Check.order(x, 0, 1, 4), 1);
     }
 
     private static void ordersInPlace() {
         Check.says("25: the most of all HOUSES as late as can be");
         // 1 pulls 2 and 3 down, 0 nothing.
         LeanCity x = Check.city(ONE + ";house weight 50 firm 99;house weight 20 firm 19;house weight 20 firm 19;lean 2 1 part 1;lean 3 1 part 1");
-        Check.is("0 first", order(x, 0, 1, 0), 0);
-        Check.is("then 1", order(x, 1, 1, 0), 1);
-        Check.is("three at 1", means(x, 1, 0), 3);
+        Check.is("0 first", Check.order(x, 0, 1, 0), 0);
+        Check.is("then 1", Check.order(x, 1, 1, 0), 1);
+        Check.is("three at 1", Check.means(x, 1, 0), 3);
         Check.says("25: one that is FALLEN by then is passed over, its place counts on");
-        // 2, 1, 0: places 0, 1 and, with 3, 1; 2, 0, 1 likewise 1, 2. 0, 2, 1: 2 at 1, 1 and 3 at 2.
-        Check.is("means", means(x, 0, 1, 2), 5);
-        Check.is("first", order(x, 0, 0, 1, 2), 0);
-        Check.is("second", order(x, 1, 0, 1, 2), 2);
-        Check.is("third", order(x, 2, 0, 1, 2), 1);
+        // 0, 2, 1: 2 at 1, 1 and 3 at 2: 5. 2, 0, 1: 0 at 1, 1 and 3 at 2: 5, too. 0, 1, 2: 2 is passed over: 3.
+        Check.is("means", Check.means(x, 0, 1, 2), 5);
+        Check.is("first", Check.order(x, 0, 0, 1, 2), 0);
+        Check.is("second", Check.order(x, 1, 0, 1, 2), 2);
+        Check.is("third", Check.order(x, 2, 0, 1, 2), 1);
         LeanCity y = Check.city("house weight 9 firm 8;house weight 9 firm 8;" + TWO);
         // The first one takes 0 and 1 with it.
-        Check.is("means", means(y, 0, 1, 2), 2);
-        Check.is("first", order(y, 0, 0, 1, 2), 0);
-        Check.is("passed over", order(y, 1, 0, 1, 2), 1);
-        Check.is("in its place", order(y, 2, 0, 1, 2), 2);
+        Check.is("means", Check.means(y, 0, 1, 2), 2);
+        Check.is("first", Check.order(y, 0, 0, 1, 2), 0);
+        Check.is("passed over", Check.order(y, 1, 0, 1, 2), 1);
+        Check.is("in its place", Check.order(y, 2, 0, 1, 2), 2);
         Check.says("25: a FALL in EVENING");
         LeanCity e = Check.city(TWO + ";house weight 9 firm 0;person at 2 hold 9 on 1011111");
         // In EVENING 0 2 stands; in EVENING 1 it falls behind the first one.
-        Check.is("EVENING 0", means(e, 0, 1, 2), 3);
+        Check.is("EVENING 0", Check.means(e, 0, 1, 2), 3);
         e.evenings(1);
-        Check.is("EVENING 1", means(e, 0, 1, 2), 2 + 1);
-        Check.is("2 first", order(e, 0, 0, 1, 2), 2);
-        Check.is("without 2", means(e, 0, 1), 1);
+        Check.is("EVENING 1", Check.means(e, 0, 1, 2), 2 + 1);
+        Check.is("2 first", Check.order(e, 0, 0, 1, 2), 2);
+        Check.is("without 2", Check.means(e, 0, 1), 1);
         Check.says("25: those FALLEN ahead of all are not counted");
         e.raze(2);
-        Check.is("means", means(e, 0, 1), 1);
+        Check.is("means", Check.means(e, 0, 1), 1);
     }
 
     // PRESS: 0, 20, 20, 20.
@@ -349,51 +329,51 @@ public final class EdgesOfAnswers {
     private static void broken() {
         LeanCity x = Check.city(ROW);
         Check.says("27: each row off by 1 at most");
-        Check.is("18", broken(x, false, 1, 18), 0);
-        Check.is("19", broken(x, false, 1, 19), 3);
-        Check.is("20", broken(x, false, 1, 20), 3);
-        Check.is("21", broken(x, false, 1, 21), 3);
-        Check.is("22", broken(x, false, 1, 22), 0);
-        Check.is("1 of 0", broken(x, false, 1, 1), 1);
-        Check.is("2 of 0", broken(x, false, 1, 2), 0);
+        Check.is("18", Check.broken(x, false, 1, 18), 0);
+        Check.is("19", Check.broken(x, false, 1, 19), 3);
+        Check.is("20", Check.broken(x, false, 1, 20), 3);
+        Check.is("21", Check.broken(x, false, 1, 21), 3);
+        Check.is("22", Check.broken(x, false, 1, 22), 0);
+        Check.is("1 of 0", Check.broken(x, false, 1, 1), 1);
+        Check.is("2 of 0", Check.broken(x, false, 1, 2), 0);
         Check.says("27: each row, also the last one");
-        Check.is("the second one", broken(x, false, 1, 20, 3, 18), 0);
-        Check.is("both", broken(x, true, 1, 20, 3, 10), 10);
+        Check.is("the second one", Check.broken(x, false, 1, 20, 3, 18), 0);
+        Check.is("both", Check.broken(x, true, 1, 20, 3, 10), 10);
         Check.says("27: none counted, too");
-        Check.is("none alone", broken(x, false, 1, 20, 2, 20, 3, 20), 1);
-        Check.is("all", broken(x, false), 4);
-        Check.is("without LEANS", broken(Check.city(TWO), false), 1);
+        Check.is("none alone", Check.broken(x, false, 1, 20, 2, 20, 3, 20), 1);
+        Check.is("all", Check.broken(x, false), 4);
+        Check.is("without LEANS", Check.broken(Check.city(TWO), false), 1);
         Check.says("27: WHICH: the least one");
-        Check.is("of all", broken(x, true), 1);
-        Check.is("of three", broken(x, true, 1, 20), 10);
+        Check.is("of all", Check.broken(x, true), 1);
+        Check.is("of three", Check.broken(x, true, 1, 20), 10);
         Check.says("27: WHICH: 64: none");
-        Check.is("64", broken(x, true, 1, 20, 2, 20, 3, 20), 64);
+        Check.is("64", Check.broken(x, true, 1, 20, 2, 20, 3, 20), 64);
         Check.says("27: WHICH; NONE");
-        Check.is("none fits", broken(x, true, 1, 22), LeanCity.NONE);
-        Check.is("none fits", broken(x, true, 0, 2), LeanCity.NONE);
+        Check.is("none fits", Check.broken(x, true, 1, 22), LeanCity.NONE);
+        Check.is("none fits", Check.broken(x, true, 0, 2), LeanCity.NONE);
         Check.says("27: WHICH: 8 times who LEANS and on whom");
         LeanCity y = Check.city(EIGHT + ";lean 7 6 part 1;lean 6 7 part 1");
-        Check.is("7 on 6", broken(y, true, 6, 0), 62);
-        Check.is("6 on 7", broken(y, true, 7, 0), 55);
+        Check.is("7 on 6", Check.broken(y, true, 6, 0), 62);
+        Check.is("6 on 7", Check.broken(y, true, 7, 0), 55);
         LeanCity z = Check.city(EIGHT + ";lean 7 0 part 1");
-        Check.is("7 on 0", broken(z, true, 0, 0), 56);
+        Check.is("7 on 0", Check.broken(z, true, 0, 0), 56);
         Check.says("27: rows of which one gainsays another");
-        Check.is("20 and 0", broken(x, false, 1, 20, 1, 0), 0);
+        Check.is("20 and 0", Check.broken(x, false, 1, 20, 1, 0), 0);
         Check.says("27: none may be told");
-        Check.is("no row", broken(x, false), 4);
+        Check.is("no row", Check.broken(x, false), 4);
         Check.says("27: at most 40 bytes: 20 rows");
         int[] twenty = new int[40];
-        Check.is("20 of 0", broken(x, false, twenty), 4);
+        Check.is("20 of 0", Check.broken(x, false, twenty), 4);
         twenty[38] = 3;
         twenty[39] = 10;
-        Check.is("the 20th counts", broken(x, true, twenty), 10);
+        Check.is("the 20th counts", Check.broken(x, true, twenty), 10);
         Check.says("27: of one FALLEN PRESS is 0");
         LeanCity f = Check.city(ROW);
         f.raze(3);
-        Check.is("0", broken(f, false, 3, 0), 3);
-        Check.is("1", broken(f, false, 3, 1), 3);
+        Check.is("0", Check.broken(f, false, 3, 0), 3);
+        Check.is("1", Check.broken(f, false, 3, 1), 3);
         Check.says("27: a LEAN on or of one FALLEN is none");
-        Check.is("which", broken(f, true, 2, 0), 10);
+        Check.is("which", Check.broken(f, true, 2, 0), 10);
     }
 
     private static void brokenBounds() {
@@ -404,40 +384,40 @@ public final class EdgesOfAnswers {
             x.lean(h, 6, 1);
         }
         Check.is("press", x.house(6, 5), 256);
-        Check.is("255 of 256", broken(x, true, 6, 255), 64);
-        Check.is("254 of 256", broken(x, false, 6, 254), 0);
-        Check.is("246 of 245", broken(x, true, 6, 246), 46);
-        Check.is("207", broken(x, false, 6, 207), 5);
+        Check.is("255 of 256", Check.broken(x, true, 6, 255), 64);
+        Check.is("254 of 256", Check.broken(x, false, 6, 254), 0);
+        Check.is("246 of 245", Check.broken(x, true, 6, 246), 46);
+        Check.is("207", Check.broken(x, false, 6, 207), 5);
         Check.more(x, "house weight 2 firm 9;lean 7 6 part 1");
         Check.is("press", x.house(6, 5), 257);
-        Check.is("255 of 257 and of 256", broken(x, true, 6, 255), 62);
-        Check.is("alone", broken(x, false, 6, 255), 1);
-        Check.is("0 is not 256", broken(x, false, 6, 0), 0);
+        Check.is("255 of 257 and of 256", Check.broken(x, true, 6, 255), 62);
+        Check.is("alone", Check.broken(x, false, 6, 255), 1);
+        Check.is("0 is not 256", Check.broken(x, false, 6, 0), 0);
     }
 
     private static void tap() {
         Check.says("28: NONE with fewer than two");
         LeanCity x = Check.city(ROW);
-        Check.is("none fits", tap(x, 1, 22), LeanCity.NONE);
-        Check.is("one fits", tap(x, 1, 20, 2, 20, 3, 20), LeanCity.NONE);
-        Check.is("without LEANS", tap(Check.city(TWO)), LeanCity.NONE);
+        Check.is("none fits", Check.tap(x, 1, 22), LeanCity.NONE);
+        Check.is("one fits", Check.tap(x, 1, 20, 2, 20, 3, 20), LeanCity.NONE);
+        Check.is("without LEANS", Check.tap(Check.city(TWO)), LeanCity.NONE);
         Check.says("28: two are enough");
-        Check.is("two fit", tap(x, 1, 20, 2, 20), 3);
+        Check.is("two fit", Check.tap(x, 1, 20, 2, 20), 3);
         Check.says("28: the greatest part is the least");
-        Check.is("all", tap(x), 3);
+        Check.is("all", Check.tap(x), 3);
         Check.says("28: of several the least");
         LeanCity y = Check.city(TWO + ";" + TWO + ";lean 0 1 part 1;lean 0 2 part 1");
-        Check.is("1 and 2", tap(y), 1);
+        Check.is("1 and 2", Check.tap(y), 1);
         Check.says("28: if it was exact: off by 1 is parted");
         // PRESS of 3 is 1 with, 0 without.
         LeanCity one = Check.city("house weight 2 firm 9;" + TWO + ";" + ONE + ";lean 0 3 part 1");
-        Check.is("1 and 0", tap(one), 3);
-        Check.is("also with a row that fits both", tap(one, 3, 1), 3);
+        Check.is("1 and 0", Check.tap(one), 3);
+        Check.is("also with a row that fits both", Check.tap(one, 3, 1), 3);
         Check.says("28: not one FALLEN, also if nothing is parted");
         LeanCity light = Check.city(ONE + ";house weight 1 firm 1;" + ONE + ";lean 1 2 part 1");
-        Check.is("0", tap(light), 0);
+        Check.is("0", Check.tap(light), 0);
         light.raze(0);
-        Check.is("1", tap(light), 1);
+        Check.is("1", Check.tap(light), 1);
     }
 
     private static void eases() {
@@ -918,11 +898,11 @@ public final class EdgesOfAnswers {
             case 4: x.spare(); break;
             case 5: x.weakest(); break;
             case 6: x.props(0); break;
-            case 7: order(x, 0, 0, 1, 2); break;
-            case 8: means(x, 0, 1, 2); break;
-            case 9: broken(x, true, 0, 1); break;
-            case 10: broken(x, false); break;
-            case 11: tap(x); break;
+            case 7: Check.order(x, 0, 0, 1, 2); break;
+            case 8: Check.means(x, 0, 1, 2); break;
+            case 9: Check.broken(x, true, 0, 1); break;
+            case 10: Check.broken(x, false); break;
+            case 11: Check.tap(x); break;
             case 12: x.eases(); break;
             case 13: x.sagging(); break;
             case 14: x.ring(0); x.held(0); break;

@@ -115,48 +115,38 @@ public final class FallPromises {
         Check.is("from 0 on", y.props(0), 1);
     }
 
-    private static int order(LeanCity x, int k, int... told) {
-        Check.tape(x, told);
-        return x.order(k);
-    }
-
-    private static int means(LeanCity x, int... told) {
-        Check.tape(x, told);
-        return x.means();
-    }
-
     private static void ordering() {
         // 1 leans on 0 and falls with it; 2 stands alone; 3 is FALLEN.
         LeanCity x = Check.city("house weight 30 firm 50;house weight 20 firm 9;house weight 9 firm 9;house weight 9 firm 9;lean 1 0 part 1");
         x.raze(3);
         // 2 (0), 0 and 1 (1): 2. 0 and 1 (0), 2 (1): 1.
-        Check.is("first", order(x, 0, 0, 2), 2);
-        Check.is("means", means(x, 0, 2), 2);
-        Check.is("first of another set", order(x, 0, 0), 0);
-        Check.is("second", order(x, 1, 0, 2), 0);
-        Check.is("third", order(x, 2, 0, 2), LeanCity.NONE);
-        Check.is("-1st", order(x, -1, 0, 2), LeanCity.NONE);
+        Check.is("first", Check.order(x, 0, 0, 2), 2);
+        Check.is("means", Check.means(x, 0, 2), 2);
+        Check.is("first of another set", Check.order(x, 0, 0), 0);
+        Check.is("second", Check.order(x, 1, 0, 2), 0);
+        Check.is("third", Check.order(x, 2, 0, 2), LeanCity.NONE);
+        Check.is("-1st", Check.order(x, -1, 0, 2), LeanCity.NONE);
         // 1, 0, 2 and 1, 2, 0 and 2, 1, 0: 1 + 2. 0, 1, 2: 1 is passed over, 2. 2, 0, 1: 1 + 1.
-        Check.is("means of three", means(x, 2, 1, 0), 3);
-        Check.is("lesser first", order(x, 0, 2, 1, 0), 1);
-        Check.is("then", order(x, 1, 2, 1, 0), 0);
-        Check.is("last", order(x, 2, 2, 1, 0), 2);
-        Check.is("none told", order(x, 0), LeanCity.NONE);
-        Check.is("means of none", means(x), 0);
+        Check.is("means of three", Check.means(x, 2, 1, 0), 3);
+        Check.is("lesser first", Check.order(x, 0, 2, 1, 0), 1);
+        Check.is("then", Check.order(x, 1, 2, 1, 0), 0);
+        Check.is("last", Check.order(x, 2, 2, 1, 0), 2);
+        Check.is("none told", Check.order(x, 0), LeanCity.NONE);
+        Check.is("means of none", Check.means(x), 0);
         Check.is("nothing was taken away", x.count(8), 7);
         // What falls without being told counts too.
-        Check.is("means of one", means(x, 0), 0);
+        Check.is("means of one", Check.means(x, 0), 0);
         // 2 falls by any FALL: told first, it takes no place from others.
         LeanCity y = Check.city("house weight 9 firm 9;house weight 9 firm 9;house weight 9 firm 0;house weight 9 firm 9;house weight 9 firm 9");
-        Check.is("passed over", means(y, 0, 1, 2, 3, 4), 1 + 2 + 3 + 4);
-        Check.is("first", order(y, 0, 4, 3, 2, 1, 0), 2);
-        Check.is("then the least", order(y, 1, 4, 3, 2, 1, 0), 0);
+        Check.is("passed over", Check.means(y, 0, 1, 2, 3, 4), 1 + 2 + 3 + 4);
+        Check.is("first", Check.order(y, 0, 4, 3, 2, 1, 0), 2);
+        Check.is("then the least", Check.order(y, 1, 4, 3, 2, 1, 0), 0);
         // Of two that fall by any FALL one is passed over, at the place 1.
         Check.more(y, "house weight 9 firm 0;house weight 9 firm 0");
         y.raze(2);
-        Check.is("passed over", means(y, 0, 5, 6), 2);
-        Check.is("first", order(y, 0, 0, 5, 6), 5);
-        Check.is("passed over in its place", order(y, 1, 0, 5, 6), 6);
+        Check.is("passed over", Check.means(y, 0, 5, 6), 2);
+        Check.is("first", Check.order(y, 0, 0, 5, 6), 5);
+        Check.is("passed over in its place", Check.order(y, 1, 0, 5, 6), 6);
     }
 
     private static void wrongOrders() {
@@ -172,18 +162,8 @@ public final class FallPromises {
             Check.fails("means", IllegalArgumentException.class, x::means);
             Check.is("tape used up", x.feed(0, 0, 0, 0, 0), 20);
         }
-        Check.is("five", means(x, 0, 1, 3, 4, 6), 10);
+        Check.is("five", Check.means(x, 0, 1, 3, 4, 6), 10);
         Check.is("tape used up", x.feed(0, 0, 0, 0, 0), 20);
-    }
-
-    private static int broken(LeanCity x, boolean which, int... rows) {
-        Check.tape(x, rows);
-        return x.broken(which);
-    }
-
-    private static int tap(LeanCity x, int... rows) {
-        Check.tape(x, rows);
-        return x.tap();
     }
 
     // PRESS as it is: 0, 20, 20, 20. Without 0 on 1: 0, 0, 10, 15; without 1 on 2: 0, 20, 0, 10; without 2 on 3: 0, 20, 20, 0.
@@ -192,47 +172,47 @@ public final class FallPromises {
 
     private static void breaking() {
         LeanCity x = Check.city(ROW);
-        Check.is("all fit", broken(x, false), 4);
-        Check.is("least of all", broken(x, true), 1);
-        Check.is("felt as it is", broken(x, false, 1, 20, 2, 20, 3, 20), 1);
-        Check.is("none is away", broken(x, true, 1, 20, 2, 20, 3, 20), 64);
-        Check.is("off by 1", broken(x, true, 1, 19, 2, 21, 3, 19), 64);
-        Check.is("off by 2", broken(x, false, 1, 18), 0);
-        Check.is("nothing fits", broken(x, true, 1, 18), LeanCity.NONE);
-        Check.is("0 on 1", broken(x, true, 1, 1), 1);
-        Check.is("1 on 2", broken(x, true, 2, 0), 10);
-        Check.is("2 on 3", broken(x, true, 3, 0, 2, 20), 19);
-        Check.is("1 felt", broken(x, false, 1, 20), 3);
-        Check.is("of three the least", broken(x, true, 1, 20), 10);
+        Check.is("all fit", Check.broken(x, false), 4);
+        Check.is("least of all", Check.broken(x, true), 1);
+        Check.is("felt as it is", Check.broken(x, false, 1, 20, 2, 20, 3, 20), 1);
+        Check.is("none is away", Check.broken(x, true, 1, 20, 2, 20, 3, 20), 64);
+        Check.is("off by 1", Check.broken(x, true, 1, 19, 2, 21, 3, 19), 64);
+        Check.is("off by 2", Check.broken(x, false, 1, 18), 0);
+        Check.is("nothing fits", Check.broken(x, true, 1, 18), LeanCity.NONE);
+        Check.is("0 on 1", Check.broken(x, true, 1, 1), 1);
+        Check.is("1 on 2", Check.broken(x, true, 2, 0), 10);
+        Check.is("2 on 3", Check.broken(x, true, 3, 0, 2, 20), 19);
+        Check.is("1 felt", Check.broken(x, false, 1, 20), 3);
+        Check.is("of three the least", Check.broken(x, true, 1, 20), 10);
         // What has one lean less gives more to others.
         LeanCity y = Check.city("house weight 40 firm 50;house weight 20 firm 50;house weight 20 firm 50;lean 0 1 part 1;lean 0 2 part 1");
-        Check.is("10 each", broken(y, true, 1, 10, 2, 10), 64);
-        Check.is("0 on 1 away", broken(y, true, 2, 20), 1);
-        Check.is("0 on 2 away", broken(y, true, 2, 0), 2);
-        Check.is("no leans", broken(Check.city("house weight 4 firm 4"), true, 0, 1), 64);
-        Check.is("no city", broken(new LeanCity(), false), 1);
+        Check.is("10 each", Check.broken(y, true, 1, 10, 2, 10), 64);
+        Check.is("0 on 1 away", Check.broken(y, true, 2, 20), 1);
+        Check.is("0 on 2 away", Check.broken(y, true, 2, 0), 2);
+        Check.is("no leans", Check.broken(Check.city("house weight 4 firm 4"), true, 0, 1), 64);
+        Check.is("no city", Check.broken(new LeanCity(), false), 1);
         y.raze(2);
-        Check.is("PRESS of one FALLEN is 0", broken(y, true, 1, 20, 2, 1), 64);
-        Check.is("a row told twice", broken(y, false, 1, 20, 1, 20), 1);
-        Check.is("rows that gainsay", broken(y, false, 1, 20, 1, 0), 0);
+        Check.is("PRESS of one FALLEN is 0", Check.broken(y, true, 1, 20, 2, 1), 64);
+        Check.is("a row told twice", Check.broken(y, false, 1, 20, 1, 20), 1);
+        Check.is("rows that gainsay", Check.broken(y, false, 1, 20, 1, 0), 0);
     }
 
     private static void tapping() {
         LeanCity x = Check.city(ROW);
         // 3 parts into 20, 15, 10, 0; 2 into 20 (twice), 10, 0; 1 into 20 (three times), 0.
-        Check.is("all", tap(x), 3);
-        Check.is("0 parts nothing", tap(Check.city("house weight 40 firm 1;house weight 4 firm 1;lean 0 1 part 1")), 1);
-        Check.is("only one fits", tap(x, 1, 20, 2, 20, 3, 20), LeanCity.NONE);
-        Check.is("nothing fits", tap(x, 1, 18), LeanCity.NONE);
-        Check.is("two fit", tap(x, 1, 20, 2, 20), 3);
-        Check.is("of several the least", tap(Check.city("house weight 40 firm 50;house weight 20 firm 50;house weight 20 firm 50;"
+        Check.is("all", Check.tap(x), 3);
+        Check.is("0 parts nothing", Check.tap(Check.city("house weight 40 firm 1;house weight 4 firm 1;lean 0 1 part 1")), 1);
+        Check.is("only one fits", Check.tap(x, 1, 20, 2, 20, 3, 20), LeanCity.NONE);
+        Check.is("nothing fits", Check.tap(x, 1, 18), LeanCity.NONE);
+        Check.is("two fit", Check.tap(x, 1, 20, 2, 20), 3);
+        Check.is("of several the least", Check.tap(Check.city("house weight 40 firm 50;house weight 20 firm 50;house weight 20 firm 50;"
                 + "lean 0 1 part 1;lean 0 2 part 1")), 1);
         // A weight of 1 gives nothing: no house parts these.
         LeanCity y = Check.city("house weight 9 firm 9;house weight 1 firm 1;house weight 4 firm 1;lean 1 2 part 1");
-        Check.is("nothing is parted", tap(y), 0);
+        Check.is("nothing is parted", Check.tap(y), 0);
         y.raze(0);
-        Check.is("the least that is not FALLEN", tap(y), 1);
-        Check.is("none", tap(new LeanCity()), LeanCity.NONE);
+        Check.is("the least that is not FALLEN", Check.tap(y), 1);
+        Check.is("none", Check.tap(new LeanCity()), LeanCity.NONE);
     }
 
     private static void wrongRows() {
@@ -246,11 +226,11 @@ public final class FallPromises {
             Check.fails("tap", IllegalArgumentException.class, x::tap);
             Check.is("tape used up", x.feed(0, 0, 0, 0, 0), 20);
         }
-        Check.is("40 bytes", broken(x, false, new int[40]), 4);
+        Check.is("40 bytes", Check.broken(x, false, new int[40]), 4);
         int[] twenty = new int[40];
         twenty[38] = 1;
         twenty[39] = 9;
-        Check.is("the 20th row", broken(x, false, twenty), 0);
+        Check.is("the 20th row", Check.broken(x, false, twenty), 0);
         Check.is("tape used up", x.feed(0, 0, 0, 0, 0), 20);
     }
 }

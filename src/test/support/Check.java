@@ -110,6 +110,26 @@ final class Check {
         return x.law();
     }
 
+    static int order(LeanCity x, int k, int... told) {
+        tape(x, told);
+        return x.order(k);
+    }
+
+    static int means(LeanCity x, int... told) {
+        tape(x, told);
+        return x.means();
+    }
+
+    static int broken(LeanCity x, boolean which, int... rows) {
+        tape(x, rows);
+        return x.broken(which);
+    }
+
+    static int tap(LeanCity x, int... rows) {
+        tape(x, rows);
+        return x.tap();
+    }
+
     static void wrongCity(String text, int fault) {
         wrongCity(new LeanCity(), text, fault);
     }
