@@ -55,6 +55,36 @@ public final class EdgesOfActs {
         Check.says("PRESS: 0, if none LEANS on it");
         Check.is("straight", Check.city(ONE).house(0, 5), 0);
         Check.is("leaning", Check.city(TWO + ";lean 0 1 part 9").house(0, 5), 0);
+        Check.says("PRESS: 0 of each at first");
+        // From 1 less the first one would have 64.
+        LeanCity slow = Check.city("house weight 96 firm 9;house weight 84 firm 9;house weight 38 firm 9;house weight 2 firm 9;house weight 55 firm 9;"
+                + "house weight 87 firm 9");
+        for (int h = 0; h < 6; h++) {
+            slow.lean(h, (h + 1) % 6, 1);
+        }
+        int[] from = {65, 80, 82, 60, 31, 43};
+        for (int h = 0; h < 6; h++) {
+            Check.is("press of " + h + " in a slow ring", slow.house(h, 5), from[h]);
+        }
+        // By 99 and 99 two have 98 in the end, and 99 from more on.
+        for (int on = 0; on < 8; on += 7) {
+            LeanCity again = Check.city("house weight 99 firm 9;house weight 99 firm 9;house weight 99 firm 9;house weight 99 firm 9;"
+                    + "house weight 99 firm 9;house weight 99 firm 9;house weight 99 firm 9;house weight 99 firm 9");
+            for (int h = 0; h < 8; h++) {
+                if (h != on) {
+                    again.lean(h, on, 1);
+                }
+            }
+            Check.is("seven on " + on, again.house(on, 5), 343);
+            for (int h = 0; h < 8; h++) {
+                if (h != on && h != 3) {
+                    again.lean(h, on, 0);
+                }
+            }
+            again.lean(on, 3, 1);
+            Check.is("two, of which one had more", again.house(on, 5), 98);
+            Check.is("and the other one", again.house(3, 5), 98);
+        }
         Check.says("PRESS: half of WEIGHT and PRESS together, rounded down");
         Check.is("of 1", Check.city("house weight 1 firm 9;" + ONE + ";lean 0 1 part 9").house(1, 5), 0);
         Check.is("of 2", Check.city("house weight 2 firm 9;" + ONE + ";lean 0 1 part 9").house(1, 5), 1);

@@ -357,6 +357,15 @@ public final class EdgesOfAnswers {
         Check.is("6 on 7", Check.broken(y, true, 7, 0), 55);
         LeanCity z = Check.city(EIGHT + ";lean 7 0 part 1");
         Check.is("7 on 0", Check.broken(z, true, 0, 0), 56);
+        Check.says("27: a row of HOUSE 0");
+        Check.is("4 of 4 or 0", Check.broken(z, false, 0, 4), 1);
+        Check.is("which", Check.broken(z, true, 0, 4), 64);
+        Check.is("2 of 4 or 0", Check.broken(z, false, 0, 2), 0);
+        Check.says("27: one LEAN is not there: others get its share");
+        LeanCity share = Check.city("house weight 40 firm 50;" + TWO + ";lean 0 1 part 1;lean 0 2 part 3");
+        Check.is("5 and 15", Check.broken(share, true, 1, 5, 2, 15), 64);
+        Check.is("0 on 1 is not there", Check.broken(share, true, 2, 20), 1);
+        Check.is("0 on 2 is not there", Check.broken(share, true, 1, 20), 2);
         Check.says("27: rows of which one gainsays another");
         Check.is("20 and 0", Check.broken(x, false, 1, 20, 1, 0), 0);
         Check.says("27: none may be told");
@@ -408,6 +417,12 @@ public final class EdgesOfAnswers {
         Check.says("28: of several the least");
         LeanCity y = Check.city(TWO + ";" + TWO + ";lean 0 1 part 1;lean 0 2 part 1");
         Check.is("1 and 2", Check.tap(y), 1);
+        Check.says("28: HOUSE 0 may be the one");
+        // 1 on 0, 2 on 3: 0 parts them into two and one, 3 likewise.
+        Check.is("0 and 3", Check.tap(Check.city(TWO + ";" + TWO + ";lean 1 0 part 1;lean 2 3 part 1")), 0);
+        Check.says("28: and may part nothing");
+        // 0 on 3, 1 on 0: by the row 0 on 3 is not there, or none; 0 has 4 either way.
+        Check.is("3", Check.tap(Check.city(TWO + ";" + TWO + ";lean 0 3 part 1;lean 1 0 part 1"), 0, 4), 3);
         Check.says("28: if it was exact: off by 1 is parted");
         // PRESS of 3 is 1 with, 0 without.
         LeanCity one = Check.city("house weight 2 firm 9;" + TWO + ";" + ONE + ";lean 0 3 part 1");

@@ -474,6 +474,24 @@ public final class EdgesOfTexts {
             Check.cityAt("week 1^" + c);
             Check.lawAt("grow 1 if held^" + c);
         }
+        Check.says("each byte from 0 to 255 behind a text that could end there");
+        for (char c = 0; c < 256; c++) {
+            boolean figure = c >= '0' && c <= '9';
+            if (figure || c == ' ') {
+                Check.is("week", Check.right("week 1" + c).count(5), figure ? c - '0' + 10 : 1);
+                Check.rightLaw(new LeanCity(), "grow 1" + c, 1);
+            } else {
+                Check.wrongCity("week 1" + c, c == ';' ? 7 : 6);
+                Check.wrongLaw("grow 1" + c, c == ';' ? 7 : 6);
+            }
+        }
+        Check.says("and in a text alone");
+        for (char c = 0; c < 256; c++) {
+            if (c != ' ') {
+                Check.wrongCity("" + c, 0);
+                Check.wrongLaw("  " + c, 2);
+            }
+        }
         Check.is("z and 9 are none of them", Check.right("prop 90;week 9").count(7), 90);
         Check.cityAt("^Week 1");
         Check.cityAt("week 1^W");
