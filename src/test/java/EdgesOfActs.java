@@ -688,6 +688,18 @@ public final class EdgesOfActs {
         }
         Check.is("the 13th undo", x.undo(), false);
         Check.is("as behind the first act", x.part(0, 1), 1);
+        Check.says("52: 12 are remembered, also behind 40");
+        LeanCity many = Check.city(TWO);
+        for (int act = 0; act < 40; act++) {
+            many.lean(0, 1, act % 7 + 1);
+        }
+        for (int act = 39; act > 27; act--) {
+            Check.is("part " + act, many.part(0, 1), act % 7 + 1);
+            Check.is("acts " + act, many.count(11), act - 27);
+            Check.is("undo " + act, many.undo(), true);
+        }
+        Check.is("part", many.part(0, 1), 27 % 7 + 1);
+        Check.is("undo", many.undo(), false);
         Check.says("52: EVENINGS of one call are one");
         x.evenings(70);
         Check.is("remembered", x.count(11), 1);

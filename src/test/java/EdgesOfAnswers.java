@@ -194,6 +194,18 @@ public final class EdgesOfAnswers {
         Check.is("1", y.person(1, 3), 0);
         Check.more(y, "house weight 9 firm 0;person at 1 hold 9");
         Check.is("2", y.person(2, 3), 2);
+        Check.says("9: NEEDS: HOUSES more, not those that stand by it");
+        Check.is("FALLEN as it is", parting().falls(0), 6);
+        Check.is("0 for 2", parting().person(0, 3), 1);
+        LeanCity z = Check.city("house weight 9 firm 9;person at 0 hold 0");
+        Check.law(z, "soft 1 if held");
+        Check.is("it stands without", z.person(0, 3), 0);
+    }
+
+    /** HOUSE 0 stands by a person, and gives more to 2, once 1 is FALLEN; without the person it is FALLEN with 1, and 2 is not. */
+    private static LeanCity parting() {
+        return Check.city("house weight 40 firm 0;house weight 1 firm 5;house weight 1 firm 10;house weight 20 firm 99;house weight 1 firm 99;"
+                + "lean 3 0 part 1;lean 0 1 part 1;lean 0 2 part 1;lean 0 4 part 1;person at 0 hold 10");
     }
 
     private static void spare() {
@@ -213,6 +225,12 @@ public final class EdgesOfAnswers {
         LeanCity y = Check.city("house weight 9 firm 0;" + ONE + ";person at 0 hold 99 on 0000000;person at 1 hold 1");
         y.raze(1);
         Check.is("both", y.spare(), 3);
+        Check.says("22: a HOUSE more is one, also if another one stands by it");
+        Check.is("0 for 2", parting().spare(), 0);
+        Check.says("22: no HOUSE more, but one less");
+        LeanCity z = Check.city("house weight 9 firm 9;person at 0 hold 0");
+        Check.law(z, "soft 1 if held");
+        Check.is("it stands without", z.spare(), 1);
     }
 
     private static void weakest() {
@@ -381,6 +399,9 @@ public final class EdgesOfAnswers {
         f.raze(3);
         Check.is("0", Check.broken(f, false, 3, 0), 3);
         Check.is("1", Check.broken(f, false, 3, 1), 3);
+        Check.is("2", Check.broken(f, false, 3, 2), 0);
+        Check.is("255", Check.broken(f, true, 3, 255), LeanCity.NONE);
+        Check.is("tap", Check.tap(f, 3, 2), LeanCity.NONE);
         Check.says("27: a LEAN on or of one FALLEN is none");
         Check.is("which", Check.broken(f, true, 2, 0), 10);
     }
@@ -466,6 +487,9 @@ public final class EdgesOfAnswers {
         Check.is("EVENING 0", e.eases(), 10);
         e.evenings(1);
         Check.is("EVENING 1", e.eases(), 2);
+        // Behind it 0 sags 11, 1 still 30; behind that of 0 and 1 both more than 30; by 1 and 2 0 would be eased in EVENING 0 alone.
+        Check.is("EVENING 1, none FALLEN yet", Check.city("house weight 50 firm 10;house weight 40 firm 10;house weight 9 firm 999;"
+                + "person at 0 hold 60 on 1011111;evening 1").eases(), 2);
         Check.says("29: none with fewer than two HOUSES");
         Check.is("one", Check.city("house weight 50 firm 0").eases(), LeanCity.NONE);
         Check.is("none", new LeanCity().eases(), LeanCity.NONE);
@@ -733,9 +757,15 @@ public final class EdgesOfAnswers {
         Check.is("one, in 4", x.odds(4), 625);
         x.raze(1);
         Check.is("nobody", x.odds(4), 10000);
+        Check.says("39: each EVENING alike, also of who is not there in it");
+        LeanCity y = Check.city(ONE + ";person at 0 hold 1 on 0000000;person at 0 hold 1 on 0100000;wander 50");
+        Check.is("odds(1)", y.odds(1), 2500);
+        Check.is("odds(2)", y.odds(2), 625);
     }
 
     private static void oldest() {
+        Check.says("40: the HOUSE of the most AGE, whatever IVY it has");
+        Check.is("ivy", Check.city(ONE + " age 5;" + ONE + " ivy 9 age 4;" + ONE + " ivy 9 age 5").oldest(), 0);
         Check.says("40: of several the least");
         LeanCity x = Check.city(ONE + " age 98;" + ONE + " age 99;" + ONE + " age 99");
         Check.is("1 and 2", x.oldest(), 1);
@@ -769,6 +799,17 @@ public final class EdgesOfAnswers {
         Check.is("WEIGHT alone", Check.city("house weight 9 firm 1;house weight 9 firm 2").twins(), 0);
         Check.is("FIRM alone", Check.city("house weight 8 firm 1;house weight 9 firm 1").twins(), 0);
         Check.is("IVY and AGE do not matter", Check.city("house weight 9 firm 1 ivy 5;house weight 9 firm 1 age 5").twins(), 1);
+        Check.says("43: of HOUSES as they are, not as one was that was undone");
+        LeanCity again = Check.city(ONE);
+        for (int firm = 99; firm >= 98; firm--) {
+            again.build(9, 99, 0, 1);
+            Check.is("twins", again.twins(), 1);
+            Check.is("key", again.key(), 0);
+            again.undo();
+            again.build(firm == 99 ? 8 : 9, firm, 0, 1);
+            Check.is("none any more", again.twins(), 0);
+            again.undo();
+        }
         Check.says("43: of those not FALLEN");
         LeanCity x = Check.city(TWO + ";" + ONE);
         x.raze(1);

@@ -46,7 +46,7 @@ final class State {
         return all.toString();
     }
 
-    private static int tapeOf(LeanCity x) {
+    static int tapeOf(LeanCity x) {
         int length = x.feed(0, 0, 0, 0, 0) - 20;
         if (length < 0) {
             length = 400;
