@@ -16,6 +16,10 @@ public final class ReadmeRuns {
         String source = source(blocks(Files.readString(Path.of("README.md"))));
         Path out = Files.createTempDirectory("readme");
         Path file = out.resolve("ReadmeExamples.java");
+        // What is told last goes first.
+        out.toFile().deleteOnExit();
+        file.toFile().deleteOnExit();
+        out.resolve("ReadmeExamples.class").toFile().deleteOnExit();
         Files.writeString(file, source);
         String path = System.getProperty("java.class.path");
         int failed = ToolProvider.getSystemJavaCompiler().run(null, null, null, "-cp", path, "-d", out.toString(), file.toString());
