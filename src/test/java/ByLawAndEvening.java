@@ -175,6 +175,15 @@ public final class ByLawAndEvening {
         // From SEED 1, 2, .. 6 the second DRAW is even, odd, odd, even, odd, odd.
         Check.is("AT 1 from some SEED", y.span(2, false), 1);
         Check.is("AT 0 from some SEED", y.span(2, true), 2);
+        // From SEED 5 alone the second DRAW modulo 7 is 1; its first one, 18655, is below no WANDER up to 55.
+        LeanCity seven = Check.city(SEVEN + ";person at 6 hold 1;wander 100");
+        Check.law(seven, "soft 99 if held and house > 0 and house < 2");
+        Check.is("AT 1 from SEED 5", seven.span(2, false), 6);
+        Check.is("AT another one from SEED 1", seven.span(2, true), 7);
+        Check.more(seven, "wander 55");
+        Check.is("from SEED 5 it does not wander", seven.span(2, false), 7);
+        Check.more(seven, "wander 56");
+        Check.is("from SEED 5 it wanders", seven.span(2, false), 6);
     }
 
     private static void needsByEvening() {
